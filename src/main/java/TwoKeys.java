@@ -839,7 +839,7 @@ public final class TwoKeys {
             misfitFound = best;
         }
 
-        /** A pitch of those that count, near to the least misfit or at it, but where cut goals hide the slope. */
+        /** A pitch at the least misfit or near to it, unless cut goals hide the slope: then just any that counts. */
         int likelyPitch(int scale, int without) {
             int low = 0;
             int high = LAST_PLACE;
@@ -856,7 +856,7 @@ public final class TwoKeys {
             return LEAST_PITCH + low * PITCH_STRIDE;
         }
 
-        /** The meant scale; what is found is then its pitch and misfit. */
+        /** The meant scale; the pitch found is then that of this scale. */
         int scaleMeant() {
             int meantScale = 0;
             int bestPitch = 0;
@@ -870,26 +870,22 @@ public final class TwoKeys {
                 }
             }
             pitchFound = bestPitch;
-            misfitFound = best;
             return meantScale;
         }
 
-        /** The added key; what is found is then the pitch and the misfit without it. */
+        /** The added key; the misfit found is then that without it. */
         int keyAdded() {
             int scale = scaleMeant();
             int addedKey = NO_KEY;
-            int bestPitch = 0;
             int best = 0;
             for (int key = 0; key < board.size; key++) {
                 if (measured[key] == NONE) continue;
                 seek(scale, key);
                 if (addedKey == NO_KEY || misfitFound < best) {
                     addedKey = key;
-                    bestPitch = pitchFound;
                     best = misfitFound;
                 }
             }
-            pitchFound = bestPitch;
             misfitFound = best;
             return addedKey;
         }

@@ -169,6 +169,7 @@ public final class KeysTest {
         TwoKeys x = new TwoKeys();
         x.strike(0, 0, 9999);
         Due.is("7 tone", x.about(0, 3), 4000);
+        Due.is("7 nothing cut", x.pressed(0, 1), 4004);
         x.strike(1, 0, 7001);
         Due.is("7 p 0", x.pressed(1, 0), 5713);
         Due.is("7 p 1", x.pressed(1, 1), 5718);
@@ -218,5 +219,14 @@ public final class KeysTest {
         Due.is("9 silent", x.order(), 1);
         x.keys(1);
         Due.is("9 one key", x.order(), 1);
+        TwoKeys y = new TwoKeys();
+        y.strike(1, 0, 5000);
+        Due.is("9 the first two", y.order(), 0);
+        y.bend(0, 1);
+        Due.is("9 the first two bent", y.order(), 1);
+        y.keys(13);
+        y.strike(12, 0, 9999);
+        y.keys(12);
+        Due.is("9 right behind the last", y.order(), 1);
     }
 }

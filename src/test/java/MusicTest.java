@@ -7,6 +7,7 @@ public final class MusicTest {
         noteOrderOfRefusals();
         noteFull();
         wipe();
+        wipedIsGone();
         rest();
         clashes();
         clash();
@@ -89,6 +90,33 @@ public final class MusicTest {
         Due.is("19 the other stays", x.heard(1, 0, 5), 0);
         Due.is("19 begins anew", x.note(0, 0, 0, 1), 0);
         Due.is("19 notes", x.count(2), 2);
+    }
+
+    /** Nothing of a wiped piece comes back, neither behind the new notes nor beside a longer piece. */
+    static void wipedIsGone() {
+        TwoKeys x = shared();
+        x.keys(24);
+        for (int i = 0; i < 40; i++) x.note(0, i % 2, 0, 99);
+        x.wipe(0);
+        x.keys(2);
+        x.book(1);
+        x.rest(20);
+        x.note(0, 0, 0, 1);
+        x.note(0, 1, 1, 1);
+        x.note(0, 0, 2, 1);
+        Due.is("19 clashes", x.clashes(0), 0);
+        Due.is("19 clash", x.clash(0, 0), TwoKeys.NONE);
+        Due.is("19 chokes", x.chokes(0), 2);
+        Due.is("19 trills", x.trills(0, false), 0);
+        Due.is("19 heard", x.heard(0, 0, 3), TwoKeys.NONE);
+        Due.is("19 lost", x.lost(0, 1), 0);
+        Due.is("19 together", x.together(0, 1), 0);
+        Due.is("19 passes", x.passes(0), 1);
+        x.wipe(0);
+        for (int i = 0; i < 4; i++) x.note(0, 23, i, 1);
+        x.wipe(0);
+        x.note(0, 0, 0, 1);
+        Due.is("19 passes anew", x.passes(0), 1);
     }
 
     static void rest() {
@@ -253,6 +281,9 @@ public final class MusicTest {
         for (int i = 0; i < ticks.length; i++) Due.is("25 tick " + ticks[i], x.heard(0, 0, ticks[i]), due[i]);
         Due.is("25 alone", x.heard(0, 3, 20), 4);
         Due.is("25 like ones", x.heard(0, 3, 21), 3);
+        x.note(0, 3, 30, 5);
+        x.note(0, 4, 31, 5);
+        Due.is("25 like ones, the least ahead", x.heard(0, 3, 31), 3);
         x.bend(4, -1);
         Due.is("25 bent", x.heard(0, 3, 21), 4);
         Due.is("25 other string", x.heard(0, 1, 14), none);
@@ -294,6 +325,10 @@ public final class MusicTest {
         x.note(0, 0, 999, 99);
         x.note(0, 1, 999, 99);
         Due.is("26 the last ticks", x.lost(0, 0), 99);
+        x.wipe(0);
+        x.note(0, 0, 0, 1);
+        x.note(0, 1, 0, 1);
+        Due.is("26 the first tick", x.lost(0, 0), 1);
     }
 
     static void passes() {

@@ -16,6 +16,7 @@ public final class OldOnesTest {
         added();
         addedByItsOwnPitch();
         bentLater();
+        bentLaterByThePitchFound();
         count();
         Due.end();
     }
@@ -213,6 +214,8 @@ public final class OldOnesTest {
         Due.is("39 nothing", x.bentLater(0, 0), TwoKeys.STATE);
         int[] wrong = {-1, 400001, Integer.MIN_VALUE, Integer.MAX_VALUE};
         for (int by : wrong) Due.is("39 by first " + by, x.bentLater(by, 0), TwoKeys.BAD);
+        x.measure(0, 20007);
+        Due.is("39 one key", x.bentLater(6, 0), 0);
         for (int key = 0; key < 12; key++) x.measure(key, 20000);
         Due.is("39 none", x.bentLater(0, 0), TwoKeys.NONE);
         x.measure(2, 20001);
@@ -241,12 +244,30 @@ public final class OldOnesTest {
         Due.is("39 as before", x.bentLater(0, 0), 2);
     }
 
+    /** The meant scale stands between others that would find other pitches. */
+    static void bentLaterByThePitchFound() {
+        TwoKeys x = new TwoKeys();
+        for (int scale = 0; scale < 5; scale++) {
+            for (int step = 0; step < 12; step++) x.step(scale, step, 10 + scale * (step % 3), 10 + scale);
+        }
+        for (int step = 0; step < 12; step++) x.step(4, step, 1, 2);
+        for (int key = 0; key < 9; key++) x.measure(key, 30000 * (10 + 2 * (key % 3)) / 12);
+        x.measure(4, 30007);
+        Due.is("37 between", x.meant(), 2);
+        Due.is("39 of many the bent one", x.bentLater(6, 0), 4);
+        Due.is("39 by 7", x.bentLater(7, 0), TwoKeys.NONE);
+        Due.is("39 no other", x.bentLater(0, 1), TwoKeys.NONE);
+        Due.is("38 the bent one", x.added(0), 4);
+        Due.is("38 all others fit", x.added(1), 0);
+        Due.is("39 not measured", x.bentLater(0, 2), TwoKeys.NONE);
+    }
+
     static void count() {
         TwoKeys x = new TwoKeys();
         x.keys(24);
         x.strike(0, 23, 700);
         x.strike(22, 23, 700);
-        x.bend(5, 1);
+        x.bend(0, 1);
         x.bend(6, -1);
         x.bend(23, 4);
         x.bend(6, 0);

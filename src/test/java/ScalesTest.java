@@ -178,6 +178,10 @@ public final class ScalesTest {
     static void worst() {
         TwoKeys x = new TwoKeys();
         Due.is("17 like ones", x.worst(), 0);
+        x.bend(0, 1);
+        Due.is("17 the first", x.worst(), 0);
+        x.bend(1, 2);
+        Due.is("17 the second", x.worst(), 1);
         x.step(0, 5, 9, 8);
         x.step(0, 7, 7, 8);
         Due.is("17 of like sizes the least", x.worst(), 5);

@@ -169,6 +169,7 @@ public final class SharingsTest {
     static void setUp() {
         TwoKeys x = new TwoKeys();
         x.keys(14);
+        x.strike(0, 9, 5000);
         x.strike(3, 9, 1234);
         x.bend(3, 17);
         x.strike(13, 20, 4321);
