@@ -5,6 +5,8 @@ import java.lang.reflect.Method;
 import java.lang.reflect.Modifier;
 import java.nio.file.Files;
 import java.nio.file.Path;
+import java.util.ArrayList;
+import java.util.List;
 import java.util.Set;
 import java.util.TreeSet;
 import java.util.regex.Pattern;
@@ -25,7 +27,9 @@ public final class FaceTest {
         fields();
         constructors();
         classesInside();
+        sizes();
         words();
+        shortMethods();
         Due.end();
     }
 
@@ -88,9 +92,48 @@ public final class FaceTest {
         }
     }
 
+    /** Seven parameters a method, some twenty fields a class beside its constants; no field changes that is static. */
+    static void sizes() {
+        List<Class<?>> all = new ArrayList<>(List.of(TwoKeys.class.getDeclaredClasses()));
+        all.add(TwoKeys.class);
+        for (Class<?> one : all) {
+            int fields = 0;
+            for (Field field : one.getDeclaredFields()) {
+                boolean fixed = Modifier.isStatic(field.getModifiers());
+                if (fixed) Due.holds(field + " is final", Modifier.isFinal(field.getModifiers()));
+                if (!fixed) fields++;
+            }
+            Due.holds(one + " has few fields", fields <= 20);
+            for (Method method : one.getDeclaredMethods()) {
+                Due.holds(method + " takes few parameters", method.getParameterCount() <= 7);
+            }
+        }
+    }
+
+    /** Some sixty lines a method: by how deep braces are, methods of the class inside being one deeper. */
+    static void shortMethods() throws IOException {
+        int depth = 0;
+        int lines = 0;
+        boolean inClassInside = false;
+        for (String line : code().split("\n")) {
+            if (depth == 1 && line.contains(" class ")) inClassInside = true;
+            int level = inClassInside ? 2 : 1;
+            lines = depth > level ? lines + 1 : 0;
+            if (lines > 60) Due.is("lines up to " + line, lines, 60);
+            depth += line.chars().map(sign -> sign == '{' ? 1 : sign == '}' ? -1 : 0).sum();
+            if (depth == 1) inClassInside = false;
+        }
+        Due.is("braces left open", depth, 0);
+    }
+
+    private static String code() throws IOException {
+        String text = Files.readString(Path.of("src/main/java/TwoKeys.java"));
+        return text.replaceAll("(?s)/\\*.*?\\*/", " ").replaceAll("//[^\n]*", " ");
+    }
+
     static void words() throws IOException {
         String text = Files.readString(Path.of("src/main/java/TwoKeys.java"));
-        String code = text.replaceAll("(?s)/\\*.*?\\*/", " ").replaceAll("//[^\n]*", " ");
+        String code = code();
         for (String word : NOT_ALLOWED) {
             String border = Character.isLetter(word.charAt(0)) ? "\\b" : "";
             Due.holds("no " + word, !Pattern.compile(border + Pattern.quote(word) + border).matcher(code).find());

@@ -406,6 +406,11 @@ public final class KeyBoundsTest {
         Due.is("15 just within above, bent", x.about(2, 2), 40);
         Due.is("15 just beyond above", x.tune(3), 1);
         Due.is("15 just beyond above, bent", x.about(3, 2), 40);
+        for (int by = -40; by <= 40; by++) {
+            x.strike(4, 4, 5000 - by);
+            Due.is("15 by " + by, x.tune(4), 0);
+            Due.is("15 by " + by + ", bent", x.about(4, 2), by);
+        }
         x.strike(4, 4, 500);
         x.strike(5, 5, 9999);
         Due.is("15 the shortest", x.tune(4), 40000000 / 540 - 8000);
@@ -506,6 +511,13 @@ public final class KeyBoundsTest {
     static void worstOfLikeOnes() {
         TwoKeys x = new TwoKeys();
         Due.is("17 none is wrong", x.worst(), 0);
+        x.step(0, 1, 9, 8);
+        Due.is("17 the second alone", x.worst(), 1);
+        x.step(0, 0, 9, 8);
+        Due.is("17 of the first two the first", x.worst(), 0);
+        x.keys(2);
+        Due.is("17 of two keys", x.worst(), 0);
+        x.keys(12);
         x.step(0, 11, 1, 2);
         Due.is("17 the last", x.worst(), 11);
         x.step(0, 10, 3, 2);

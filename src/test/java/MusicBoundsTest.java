@@ -14,6 +14,7 @@ public final class MusicBoundsTest {
         firstAndLastTick();
         noneBeginsAheadOfTheOneAhead();
         wiped();
+        nothingBehindTheLast();
         silentSharesNothing();
         silentIsNeverHeard();
         clashAtOneTick();
@@ -214,6 +215,31 @@ public final class MusicBoundsTest {
         x.book(15);
         x.wipe(0);
         Due.is("28 the book stays", x.book(0), 15);
+    }
+
+    /** Behind the last note of a piece that was full and wiped nothing counts. */
+    static void nothingBehindTheLast() {
+        for (int left = 0; left < 5; left++) {
+            TwoKeys x = new TwoKeys();
+            x.strike(1, 0, 4000);
+            x.rest(20);
+            x.book(15);
+            for (int piece = 0; piece < 4; piece++) {
+                for (int i = 0; i < 40; i++) x.note(piece, i < 20 ? i % 2 : 23, i, 99);
+                Due.is("19 full", x.wipe(piece), 40);
+                for (int i = 0; i < left; i++) x.note(piece, i % 2, 0, 1);
+                // notes of key 0 and key 1 in turns, all at tick 0
+                int pairs = left / 2 * (left - left / 2);
+                Due.is("21 of " + left, x.clashes(piece), pairs);
+                Due.is("22 of " + left, x.clash(piece, pairs), NONE);
+                Due.is("23 of " + left, x.chokes(piece), 0);
+                Due.is("24 of " + left, x.trills(piece, false), left == 4 ? 1 : 0);
+                Due.is("25 of " + left, x.heard(piece, 0, 1), NONE);
+                Due.is("26 of " + left, x.lost(piece, 0), left > 1 ? 1 : 0);
+                Due.is("27 of " + left, x.passes(piece), left > 1 ? 0 : 1);
+                Due.is("29 of " + left, x.together(0, 1), pairs * (piece + 1));
+            }
+        }
     }
 
     /** "A KEY that is not there (n and more) is SILENT: it SHARES nothing". */

@@ -12,10 +12,12 @@ public final class RefusalsTest {
     private static final int NONE = TwoKeys.NONE;
 
     /** A room that calls are made in, by what its refusals depend on. */
-    record Kind(boolean busy, int n) {
+    record Kind(boolean busy, boolean old, int n) {
         TwoKeys make() {
-            if (busy) return Rooms.busy(n);
-            TwoKeys x = new TwoKeys();
+            TwoKeys x = busy ? Rooms.busy(24) : new TwoKeys();
+            for (int key : new int[] {0, 12, 23}) {
+                if (busy && !old) x.measure(key, NONE);
+            }
             x.keys(n);
             return x;
         }
@@ -29,7 +31,7 @@ public final class RefusalsTest {
         }
 
         int measured() {
-            if (!busy) return 0;
+            if (!old) return 0;
             return n == 24 ? 3 : n > 12 ? 2 : 1;
         }
 
@@ -49,8 +51,9 @@ public final class RefusalsTest {
     record Reason(int answer, Holds holds) {
     }
 
-    private static final Kind[] KINDS = {new Kind(false, 1), new Kind(false, 12), new Kind(false, 24), new Kind(true, 1),
-        new Kind(true, 12), new Kind(true, 13), new Kind(true, 24)};
+    private static final Kind[] KINDS = {new Kind(false, false, 1), new Kind(false, false, 12),
+        new Kind(false, false, 24), new Kind(true, false, 13), new Kind(true, true, 1), new Kind(true, true, 12),
+        new Kind(true, true, 13), new Kind(true, true, 24)};
 
     private final String name;
     private final Call call;
