@@ -1,6 +1,6 @@
 /**
  * A maker's room for small keyboards whose neighbours strike the same string at two places.
- * Refusals are answered as numbers below all true answers; no call ever throws.
+ * Refusals are answered as numbers, which a true ERROR may be as well; no call ever throws.
  */
 public final class TwoKeys {
     public static final int UNKNOWN = -100001, BAD = -100002, STATE = -100003, FULL = -100004, NONE = -100009;

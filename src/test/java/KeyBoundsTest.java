@@ -22,6 +22,7 @@ public final class KeyBoundsTest {
         goalWrapsAtTwelve();
         goalIsCutOnce();
         errorHasASign();
+        errorAsLowAsARefusal();
         wrongIsOfSizes();
         tunedToTheEnds();
         tunedOfLikeOnes();
@@ -371,6 +372,29 @@ public final class KeyBoundsTest {
         Due.is("6 above 0", x.about(2, 5), 4000);
         x.use(4);
         Due.is("6 by the scale in use", x.about(1, 5), 6000);
+    }
+
+    /** "its TONE less its GOAL": a true ERROR may be the number of a refusal, or below all of them. */
+    static void errorAsLowAsARefusal() {
+        TwoKeys x = new TwoKeys();
+        for (int low : new int[] {UNKNOWN, BAD, TwoKeys.STATE, TwoKeys.FULL, NONE, NONE - 1}) {
+            x.bend(0, 0);
+            x.pitch(8000 - low);
+            Due.is("6 as low as " + low, x.about(0, 5), low);
+            // bent by -40 it sounds 4960 long
+            x.pitch(40000000 / 4960 - low);
+            Due.is("15 as low as " + low, x.tune(0), low);
+            Due.is("15 as low as " + low + ", bent", x.about(0, 2), -40);
+        }
+        x.keys(24);
+        x.strike(23, 0, 9999);
+        x.tension(0, 100);
+        x.step(0, 11, 4, 1);
+        x.pitch(200000);
+        Due.is("6 the lowest", x.about(23, 5), 100 - 1600000);
+        x.bend(23, 40);
+        Due.is("6 the lowest, bent", x.about(23, 5), 99 - 1600000);
+        Due.is("15 the lowest", x.tune(23), 100 - 1600000);
     }
 
     /** "WRONG are all sizes of ERRORS together." */
